@@ -484,6 +484,25 @@ public final class PromiseTests {
         dueDialogues(x, 0, 6, 7, 8);
         dueDatagram(x, 1, 0, 3, 1, 3, 2, 8, 0, 0);
         deliverOneSubscribersMoves();
+        deliverMovesKeepQueries();
+    }
+
+    private static void deliverMovesKeepQueries() {
+        RoamingRegisters x = registered(2, 1, 0);
+        x.ask(0);
+        x.appear(1, 0);
+        x.deliver(1);
+        dueDialogues(x, 0, 2, 3);
+        x.deliver(0);
+        x.deliver(1);
+        due("the query goes on", x.answer(2), 100);
+        x.ask(0);
+        register(x, 2, 0);
+        dueCancellations(x, 4);
+        due("ask", x.ask(0), 6);
+        loseAll(x);
+        x.tick();
+        dueDialogues(x, 0, 6, 7);
     }
 
     private static void deliverOneSubscribersMoves() {
@@ -660,6 +679,20 @@ public final class PromiseTests {
         x.deliver(0);
         due("ABORT at the home, not open", x.deliver(x.flying() - 1), 40);
         due("open", x.registration(1, 1), 1);
+        endUpdateEndsOneDialogue();
+    }
+
+    private static void endUpdateEndsOneDialogue() {
+        RoamingRegisters x = registered(2, 1, 1);
+        x.appear(2, 2);
+        x.deliver(0);
+        x.deliver(0);
+        x.deliver(0);
+        x.ask(1);
+        due("END UPDATE", x.deliver(0), 31);
+        dueDialogues(x, 2);
+        dueDialogues(x, 0, 3);
+        due("the home's query goes on", x.answer(3), OPEN);
     }
 
     private static void lose() {
@@ -775,6 +808,23 @@ public final class PromiseTests {
         due("all FAILED", x.registration(1, 0) + x.registration(2, 1) + x.registration(2, 2), 9);
         dueDialogues(x, 2);
         tickSomeDue();
+        tickLaterOneDueFirst();
+    }
+
+    private static void tickLaterOneDueFirst() {
+        RoamingRegisters x = registered(2, 1, 0);
+        register(x, 2, 0);
+        x.ask(0);
+        x.tick();
+        dueDialogues(x, 0, 3, 4);
+        x.deliver(1);
+        x.lose(1);
+        ticks(x, 3);
+        dueDialogues(x, 0, 3, 4);
+        x.tick();
+        dueDialogues(x, 0, 3, 5);
+        x.tick();
+        dueDialogues(x, 0, 5);
     }
 
     private static void tickSomeDue() {
