@@ -55,10 +55,42 @@ public final class FaceTests {
             wrong++;
             System.out.println("the class is not public and final");
         }
+        wrong += namesUsedTwice() + classesNotDue();
         System.out.println(wrong == 0 ? "the face is as due" : wrong + " members are not as due");
         if (wrong != 0) {
             System.exit(1);
         }
+    }
+
+    /** LANGUAGE.md, rule 1: no private method bears the name of a public one. */
+    private static int namesUsedTwice() {
+        Set<String> open = new TreeSet<>();
+        for (Method m : RoamingRegisters.class.getDeclaredMethods()) {
+            if (Modifier.isPublic(m.getModifiers())) {
+                open.add(m.getName());
+            }
+        }
+        int wrong = 0;
+        for (Method m : RoamingRegisters.class.getDeclaredMethods()) {
+            if (!Modifier.isPublic(m.getModifiers()) && open.contains(m.getName())) {
+                wrong++;
+                System.out.println("bears the name of a public method: " + m);
+            }
+        }
+        return wrong;
+    }
+
+    /** LANGUAGE.md, rule 1: the classes inside are private or package-visible and static. */
+    private static int classesNotDue() {
+        int wrong = 0;
+        for (Class<?> c : RoamingRegisters.class.getDeclaredClasses()) {
+            int modifiers = c.getModifiers();
+            if (Modifier.isPublic(modifiers) || Modifier.isProtected(modifiers) || !Modifier.isStatic(modifiers)) {
+                wrong++;
+                System.out.println("is public or protected or not static: " + c);
+            }
+        }
+        return wrong;
     }
 
     private static Set<String> face() throws IllegalAccessException {

@@ -6,21 +6,24 @@ import java.util.Map;
 import java.util.TreeMap;
 
 /**
- * Runs of mixed calls, drawn from a fixed row of numbers: every answer and all that can be seen of
- * the object are compared with Model, a slow telling of the document that shares no code with it.
+ * Runs of mixed calls, drawn from a fixed row of numbers: every answer and, at a run's end, all that can
+ * be seen of the object are compared with Model, a slow telling of the document that shares no code with
+ * it. No run makes more than the 512 calls that the document promises an object for.
  */
 public final class ModelRuns {
-    private static final int RUNS = 600;
+    private static final int RUNS = 12000;
     private static final int CALLS = 512;
 
     private static long seed;
     private static int wrong = 0;
+    private static int run;
+    private static int calls;
 
     public static void main(String[] args) {
         Map<String, Integer> seen = new TreeMap<>();
-        for (int run = 0; run < RUNS && wrong < 20; run++) {
+        for (run = 0; run < RUNS && wrong < 20; run++) {
             seed = 7919L * run + 13;
-            run(run, seen);
+            run(seen);
         }
         String[] needed = {"appear busy", "appear lost", "ask busy", "flight lost", "update doubled", "abort for four",
             "abort for six", "cancel ended by update", "no number", "not held", "timeout of update", "late answer",
@@ -47,17 +50,28 @@ public final class ModelRuns {
         return draw(25) == 0 ? (draw(2) == 0 ? -1 : bound) : draw(bound);
     }
 
-    private static void run(int run, Map<String, Integer> seen) {
+    private static void run(Map<String, Integer> seen) {
         int visited = 1 + draw(5);
         RoamingRegisters x = new RoamingRegisters(visited);
         Model m = new Model(visited, seen);
+        calls = 0;
         // Some runs are calm and some stormy, so that both full lists and whole exchanges are met.
         int[] weights = {1 + draw(2), 1 + draw(2), 4 + draw(20), 1 + draw(12), 20 + draw(60), draw(6), draw(16), 1 + draw(8), 1 + draw(3)};
-        x.title(0, 0, true);
-        m.title(0, 0, true);
-        for (int n = 1; n < CALLS && wrong < 20; n++) {
-            String call = step(x, m, pick(weights));
-            compare(run, n, call, x, m);
+        int reads = draw(3) == 0 ? 1 : 0;
+        // A run that is short ends in a state that long runs pass through unseen.
+        int most = draw(2) == 0 ? CALLS : 100 + draw(CALLS - 100);
+        same("title", bit(x.title(0, 0, true)), bit(m.title(0, 0, true)));
+        while (calls + m.costOfALook() < most && wrong < 20) {
+            if (draw(10) < reads) {
+                read(x, m, draw(10));
+            } else {
+                step(x, m, pick(weights));
+            }
+        }
+        look(x, m);
+        if (calls > CALLS) {
+            wrong++;
+            System.out.println("run " + run + " makes " + calls + " calls");
         }
     }
 
@@ -76,40 +90,120 @@ public final class ModelRuns {
         return 0;
     }
 
-    private static String step(RoamingRegisters x, Model m, int kind) {
+    private static void step(RoamingRegisters x, Model m, int kind) {
         int a;
         int b;
         switch (kind) {
             case 0:
                 a = near(4);
                 b = draw(3) == 0 ? near(100000) : draw(200);
-                return same("digits " + a + " " + b, bit(x.digits(a, b)), bit(m.digits(a, b)));
+                same("digits " + a + " " + b, bit(x.digits(a, b)), bit(m.digits(a, b)));
+                break;
             case 1:
                 a = draw(3) == 0 ? near(20) : 0;
                 b = near(6);
                 boolean yes = draw(4) != 0;
-                return same("title " + a + " " + b + " " + yes, bit(x.title(a, b, yes)), bit(m.title(a, b, yes)));
+                same("title " + a + " " + b + " " + yes, bit(x.title(a, b, yes)), bit(m.title(a, b, yes)));
+                break;
             case 2:
                 a = 1 + near(4);
                 b = near(4);
-                return same("appear " + a + " " + b, x.appear(a, b), m.appear(a, b));
+                same("appear " + a + " " + b, x.appear(a, b), m.appear(a, b));
+                break;
             case 3:
                 a = near(4);
-                return same("ask " + a, x.ask(a), m.ask(a));
+                same("ask " + a, x.ask(a), m.ask(a));
+                break;
             case 4:
-                a = draw(2) == 0 ? 0 : near(Math.max(1, x.flying()));
-                return same("deliver " + a, x.deliver(a), m.deliver(a));
+                a = draw(2) == 0 ? 0 : near(Math.max(1, m.flight.size()));
+                same("deliver " + a, x.deliver(a), m.deliver(a));
+                break;
             case 5:
-                a = near(Math.max(1, x.flying()));
-                return same("lose " + a, bit(x.lose(a)), bit(m.lose(a)));
+                a = near(Math.max(1, m.flight.size()));
+                same("lose " + a, bit(x.lose(a)), bit(m.lose(a)));
+                break;
             case 6:
-                a = near(Math.max(1, x.flying()));
-                return same("copy " + a, bit(x.copy(a)), bit(m.copy(a)));
+                a = near(Math.max(1, m.flight.size()));
+                same("copy " + a, bit(x.copy(a)), bit(m.copy(a)));
+                break;
             case 7:
-                return same("tick", x.tick(), m.tick());
+                same("tick", x.tick(), m.tick());
+                break;
             default:
                 a = 100 * near(6) + near(2);
-                return same("call " + a, x.call(a), m.call(a));
+                same("call " + a, x.call(a), m.call(a));
+                break;
+        }
+    }
+
+    private static void read(RoamingRegisters x, Model m, int kind) {
+        int a = near(5);
+        int b = near(4);
+        switch (kind) {
+            case 0:
+                a = near(m.nodes.get(0).latest + 1);
+                same("answer " + a, x.answer(a), m.answer(a));
+                break;
+            case 1:
+                same("flying", x.flying(), m.flight.size());
+                break;
+            case 2:
+                same("holds " + a + " " + b, bit(x.holds(a, b)), bit(m.holds(a, b)));
+                break;
+            case 3:
+                same("location " + b, x.location(b), m.location(b));
+                break;
+            case 4:
+                same("registration " + a + " " + b, x.registration(a, b), m.registration(a, b));
+                break;
+            case 5:
+                same("dialogues " + a, x.dialogues(a), m.dialogues(a));
+                break;
+            case 6:
+                same("dialogue " + a + " " + b, x.dialogue(a, b), m.dialogue(a, b));
+                break;
+            case 7:
+                a = near(6);
+                same("cancellation " + a, x.cancellation(a), m.cancellation(a));
+                break;
+            default:
+                a = near(Math.max(1, m.flight.size()));
+                b = near(8);
+                same("datagram " + a + " " + b, x.datagram(a, b), m.datagram(a, b));
+                break;
+        }
+    }
+
+    /** All that can be seen, the roaming numbers last because seeing them frees them. */
+    private static void look(RoamingRegisters x, Model m) {
+        same("flying", x.flying(), m.flight.size());
+        for (int i = 0; i < m.flight.size(); i++) {
+            for (int what = 0; what < 8; what++) {
+                same("datagram " + i + " " + what, x.datagram(i, what), m.datagram(i, what));
+            }
+        }
+        for (int node = 0; node < m.nodes.size(); node++) {
+            for (int k = 0; k <= m.dialogues(node); k++) {
+                same("dialogue " + node + " " + k, x.dialogue(node, k), m.dialogue(node, k));
+            }
+            for (int s = 0; node > 0 && s < 4; s++) {
+                same("holds " + node + " " + s, bit(x.holds(node, s)), bit(m.holds(node, s)));
+                same("registration " + node + " " + s, x.registration(node, s), m.registration(node, s));
+            }
+        }
+        for (int s = 0; s < 4; s++) {
+            same("location " + s, x.location(s), m.location(s));
+        }
+        for (int k = 0; k <= m.cancellations.size(); k++) {
+            same("cancellation " + k, x.cancellation(k), m.cancellation(k));
+        }
+        int latest = m.nodes.get(0).latest;
+        for (int query = Math.max(0, latest - 24); query <= latest + 1; query++) {
+            same("answer " + query, x.answer(query), m.answer(query));
+        }
+        for (int v = 1; v < m.nodes.size(); v++) {
+            same("call " + 100 * v, x.call(100 * v), m.call(100 * v));
+            same("call " + (100 * v + 1), x.call(100 * v + 1), m.call(100 * v + 1));
         }
     }
 
@@ -117,53 +211,12 @@ public final class ModelRuns {
         return yes ? 1 : 0;
     }
 
-    private static String same(String call, int got, int want) {
+    private static void same(String call, int got, int want) {
+        calls++;
         if (got != want) {
             wrong++;
-            System.out.println(call + " answered " + got + ", due is " + want);
+            System.out.println("run " + run + ", call " + calls + ": " + call + " answered " + got + ", due is " + want);
         }
-        return call;
-    }
-
-    private static void compare(int run, int n, String call, RoamingRegisters x, Model m) {
-        String got = look(x);
-        String want = m.look();
-        if (!got.equals(want)) {
-            wrong++;
-            System.out.println("run " + run + ", call " + n + ", after " + call + ":\n  is  " + got + "\n  due " + want);
-        }
-        for (int q = -1; q <= m.nodes.get(0).latest + 1; q++) {
-            if (x.answer(q) != m.answer(q)) {
-                wrong++;
-                System.out.println("run " + run + ", call " + n + ": answer " + q + " is " + x.answer(q) + ", due " + m.answer(q));
-            }
-        }
-    }
-
-    private static String look(RoamingRegisters x) {
-        StringBuilder text = new StringBuilder();
-        for (int i = 0; i < x.flying(); i++) {
-            for (int what = 0; what < 8; what++) {
-                text.append(x.datagram(i, what)).append(what < 7 ? ',' : ';');
-            }
-        }
-        text.append(" open");
-        for (int node = 0; x.dialogues(node) != RoamingRegisters.BAD; node++) {
-            for (int k = 0; k < x.dialogues(node); k++) {
-                text.append(' ').append(x.dialogue(node, k));
-            }
-            text.append('/');
-            for (int s = 0; node > 0 && s < 4; s++) {
-                text.append(x.holds(node, s) ? 'h' : '-').append(x.registration(node, s));
-            }
-        }
-        for (int s = 0; s < 4; s++) {
-            text.append(" at ").append(x.location(s));
-        }
-        for (int k = 0; x.cancellation(k) >= 0; k++) {
-            text.append(" c").append(x.cancellation(k));
-        }
-        return text.toString();
     }
 
     private record Gram(int sender, int receiver, String form, String operation, int s, int from, int to, int value) {
@@ -497,30 +550,45 @@ public final class ModelRuns {
             return allotted == null ? -1 : allotted[0];
         }
 
-        String look() {
-            StringBuilder text = new StringBuilder();
-            for (Gram g : flight) {
-                text.append(g.sender).append(',').append(g.receiver).append(',').append(FORMS.indexOf(g.form)).append(',');
-                text.append(OPERATIONS.indexOf(g.operation)).append(',').append(g.s).append(',').append(g.from).append(',');
-                text.append(g.to).append(',').append(g.value).append(';');
+        int datagram(int i, int what) {
+            if (i < 0 || i >= flight.size() || what < 0 || what > 7) {
+                return -9;
             }
-            text.append(" open");
-            for (Node node : nodes) {
-                for (int number : node.open.keySet()) {
-                    text.append(' ').append(number);
-                }
-                text.append('/');
-                for (int s = 0; node != nodes.get(0) && s < 4; s++) {
-                    text.append(node.holds[s] ? 'h' : '-').append(node.standing[s]);
-                }
+            Gram g = flight.get(i);
+            int[] parts = {g.sender, g.receiver, FORMS.indexOf(g.form), OPERATIONS.indexOf(g.operation), g.s, g.from, g.to, g.value};
+            return parts[what];
+        }
+
+        boolean holds(int v, int s) {
+            return !noNode(v) && !noSubscriber(s) && nodes.get(v).holds[s];
+        }
+
+        int location(int s) {
+            return noSubscriber(s) ? -9 : location[s];
+        }
+
+        int registration(int v, int s) {
+            return noNode(v) || noSubscriber(s) ? -9 : nodes.get(v).standing[s];
+        }
+
+        int dialogues(int node) {
+            return node < 0 || node >= nodes.size() ? -9 : nodes.get(node).open.size();
+        }
+
+        int dialogue(int node, int k) {
+            if (k < 0 || k >= dialogues(node)) {
+                return -9;
             }
-            for (int s = 0; s < 4; s++) {
-                text.append(" at ").append(location[s]);
-            }
-            for (int c : cancellations) {
-                text.append(" c").append(c);
-            }
-            return text.toString();
+            return new ArrayList<>(nodes.get(node).open.keySet()).get(k);
+        }
+
+        int cancellation(int k) {
+            return k < 0 || k >= cancellations.size() ? -1 : cancellations.get(k);
+        }
+
+        /** At least as many calls as look needs after one call more, which may be a tick that sends eight. */
+        int costOfALook() {
+            return 8 * Math.min(24, flight.size() + 8) + 100;
         }
     }
 }

@@ -1,17 +1,5 @@
-import java.util.Arrays;
-
-/** The promises of the document one by one: ordinary inputs, the edges that it names, wrong inputs. */
-public final class PromiseTests {
-    private static final int BAD = -9;
-    private static final int BUSY = -8;
-    private static final int LOST = -7;
-    private static final int OPEN = -6;
-    private static final int MIN = Integer.MIN_VALUE;
-    private static final int MAX = Integer.MAX_VALUE;
-
-    private static int wrong = 0;
-    private static String section = "";
-
+/** The promises of the document one by one: ordinary inputs, edges, wrong inputs. */
+public final class PromiseTests extends Checks {
     public static void main(String[] args) {
         newObject();
         digits();
@@ -41,94 +29,11 @@ public final class PromiseTests {
         dialogue();
         cancellation();
         call();
-        System.out.println(wrong == 0 ? "all answers are as due" : wrong + " answers are not as due");
-        if (wrong != 0) {
-            System.exit(1);
-        }
-    }
-
-    private static void due(String what, int got, int want) {
-        if (got != want) {
-            wrong++;
-            System.out.println(section + ": " + what + " answered " + got + ", due is " + want);
-        }
-    }
-
-    private static void due(String what, boolean got, boolean want) {
-        due(what, got ? 1 : 0, want ? 1 : 0);
-    }
-
-    /** All eight parts of datagram i: sender, receiver, form, operation, subscriber, from, to, value. */
-    private static void dueDatagram(RoamingRegisters x, int i, int... want) {
-        int[] got = new int[8];
-        for (int what = 0; what < 8; what++) {
-            got[what] = x.datagram(i, what);
-        }
-        if (!Arrays.equals(got, want)) {
-            wrong++;
-            System.out.println(section + ": datagram " + i + " is " + Arrays.toString(got)
-                + ", due is " + Arrays.toString(want));
-        }
-    }
-
-    private static void dueDialogues(RoamingRegisters x, int node, int... want) {
-        due("dialogues(" + node + ")", x.dialogues(node), want.length);
-        for (int k = 0; k < want.length; k++) {
-            due("dialogue(" + node + ", " + k + ")", x.dialogue(node, k), want[k]);
-        }
-        due("dialogue(" + node + ", behind the last)", x.dialogue(node, want.length), BAD);
-    }
-
-    private static void dueCancellations(RoamingRegisters x, int... want) {
-        for (int k = 0; k < want.length; k++) {
-            due("cancellation(" + k + ")", x.cancellation(k), want[k]);
-        }
-        due("cancellation(" + want.length + ")", x.cancellation(want.length), -1);
-    }
-
-    private static RoamingRegisters reachable(int visited) {
-        RoamingRegisters x = new RoamingRegisters(visited);
-        x.title(0, 0, true);
-        return x;
-    }
-
-    private static void deliverAll(RoamingRegisters x) {
-        for (int n = 0; n < 200 && x.flying() > 0; n++) {
-            x.deliver(0);
-        }
-    }
-
-    private static void loseAll(RoamingRegisters x) {
-        for (int n = 0; n < 24; n++) {
-            x.lose(0);
-        }
-    }
-
-    private static void register(RoamingRegisters x, int v, int s) {
-        x.appear(v, s);
-        deliverAll(x);
-    }
-
-    private static void ticks(RoamingRegisters x, int count) {
-        for (int n = 0; n < count; n++) {
-            x.tick();
-        }
-    }
-
-    private static RoamingRegisters registered(int visited, int v, int s) {
-        RoamingRegisters x = reachable(visited);
-        register(x, v, s);
-        return x;
-    }
-
-    private static void fillNetwork(RoamingRegisters x) {
-        for (int n = 0; n < 24; n++) {
-            x.copy(0);
-        }
+        end();
     }
 
     private static void newObject() {
-        section = "promise 1";
+        section("promise 1");
         int[][] rows = {{MIN, 2}, {-1, 2}, {0, 2}, {1, 2}, {2, 2}, {3, 3}, {4, 4}, {5, 4}, {MAX, 4}};
         for (int[] row : rows) {
             RoamingRegisters x = new RoamingRegisters(row[0]);
@@ -155,7 +60,7 @@ public final class PromiseTests {
     }
 
     private static void digits() {
-        section = "promise 2";
+        section("promise 2");
         RoamingRegisters x = new RoamingRegisters(2);
         x.title(99999, 5, true);
         due("digits(3, 99999)", x.digits(3, 99999), true);
@@ -176,7 +81,7 @@ public final class PromiseTests {
     }
 
     private static void title() {
-        section = "promise 3";
+        section("promise 3");
         RoamingRegisters x = new RoamingRegisters(2);
         int[] powers = {1, 10, 100, 1000, 10000, 100000};
         for (int count = 0; count <= 5; count++) {
@@ -228,7 +133,7 @@ public final class PromiseTests {
     }
 
     private static void appear() {
-        section = "promise 4";
+        section("promise 4");
         RoamingRegisters x = reachable(3);
         int[][] bad = {{0, 0}, {-1, 0}, {4, 0}, {MIN, 0}, {MAX, 0}, {1, -1}, {1, 4}, {1, MIN}, {1, MAX}, {0, 9}};
         for (int[] row : bad) {
@@ -280,7 +185,7 @@ public final class PromiseTests {
     }
 
     private static void ask() {
-        section = "promise 5";
+        section("promise 5");
         RoamingRegisters x = registered(2, 2, 3);
         int[] bad = {-1, 4, MIN, MAX};
         for (int s : bad) {
@@ -310,7 +215,7 @@ public final class PromiseTests {
     }
 
     private static void answer() {
-        section = "promise 6";
+        section("promise 6");
         RoamingRegisters x = registered(2, 1, 0);
         int[] bad = {0, -1, MIN, MAX, 1, 2};
         for (int query : bad) {
@@ -381,7 +286,7 @@ public final class PromiseTests {
     }
 
     private static void deliver() {
-        section = "promise 7";
+        section("promise 7");
         RoamingRegisters x = reachable(2);
         int[] bad = {0, -1, 24, MIN, MAX};
         for (int i : bad) {
@@ -406,7 +311,7 @@ public final class PromiseTests {
     }
 
     private static void deliverBeginUpdate() {
-        section = "promise 7, BEGIN UPDATE";
+        section("promise 7, BEGIN UPDATE");
         RoamingRegisters x = reachable(4);
         x.appear(1, 0);
         x.copy(0);
@@ -461,7 +366,7 @@ public final class PromiseTests {
     }
 
     private static void deliverMoves() {
-        section = "promise 7, moves";
+        section("promise 7, moves");
         RoamingRegisters x = registered(3, 1, 2);
         register(x, 1, 2);
         dueCancellations(x);
@@ -520,18 +425,8 @@ public final class PromiseTests {
         dueDialogues(x, 0, 5, 7);
     }
 
-    /** Six cancellations: 0 and 1 went from 1 to 2 to 3, and 2 and 3 went from 3 to 4. */
-    private static RoamingRegisters sixCancellations() {
-        RoamingRegisters x = reachable(4);
-        int[][] ways = {{1, 0}, {1, 1}, {2, 0}, {2, 1}, {3, 0}, {3, 1}, {3, 2}, {3, 3}, {4, 2}, {4, 3}};
-        for (int[] way : ways) {
-            register(x, way[0], way[1]);
-        }
-        return x;
-    }
-
     private static void deliverFullCancellations() {
-        section = "promise 7, six cancellations";
+        section("promise 7, six cancellations");
         RoamingRegisters x = sixCancellations();
         dueCancellations(x, 4, 5, 8, 9, 14, 15);
         x.appear(4, 0);
@@ -553,7 +448,7 @@ public final class PromiseTests {
     }
 
     private static void deliverInserts() {
-        section = "promise 7, CONTINUE INSERT";
+        section("promise 7, CONTINUE INSERT");
         RoamingRegisters x = reachable(2);
         x.appear(2, 1);
         x.deliver(0);
@@ -596,7 +491,7 @@ public final class PromiseTests {
     }
 
     private static void deliverCancels() {
-        section = "promise 7, CANCEL";
+        section("promise 7, CANCEL");
         RoamingRegisters x = registered(2, 1, 3);
         register(x, 2, 3);
         x.tick();
@@ -633,7 +528,7 @@ public final class PromiseTests {
     }
 
     private static void deliverProvides() {
-        section = "promise 7, PROVIDE";
+        section("promise 7, PROVIDE");
         RoamingRegisters x = registered(3, 3, 1);
         x.ask(1);
         x.copy(0);
@@ -656,7 +551,7 @@ public final class PromiseTests {
     }
 
     private static void deliverEndUpdateAndAbort() {
-        section = "promise 7, END UPDATE and ABORT";
+        section("promise 7, END UPDATE and ABORT");
         RoamingRegisters x = reachable(2);
         x.appear(1, 1);
         x.deliver(0);
@@ -696,7 +591,7 @@ public final class PromiseTests {
     }
 
     private static void lose() {
-        section = "promise 8";
+        section("promise 8");
         RoamingRegisters x = reachable(2);
         due("lose(0)", x.lose(0), false);
         x.appear(1, 0);
@@ -719,7 +614,7 @@ public final class PromiseTests {
     }
 
     private static void copy() {
-        section = "promise 9";
+        section("promise 9");
         RoamingRegisters x = registered(2, 1, 3);
         due("copy(0)", x.copy(0), false);
         x.ask(3);
@@ -747,7 +642,7 @@ public final class PromiseTests {
     }
 
     private static void flying() {
-        section = "promise 10";
+        section("promise 10");
         RoamingRegisters x = reachable(2);
         due("flying", x.flying(), 0);
         x.appear(1, 0);
@@ -763,7 +658,7 @@ public final class PromiseTests {
     }
 
     private static void datagram() {
-        section = "promise 11";
+        section("promise 11");
         RoamingRegisters x = reachable(2);
         due("none", x.datagram(0, 0), BAD);
         x.appear(2, 3);
@@ -783,7 +678,7 @@ public final class PromiseTests {
     }
 
     private static void tickDeadlines() {
-        section = "promise 12, deadlines";
+        section("promise 12, deadlines");
         RoamingRegisters x = reachable(3);
         for (int n = 1; n <= 4; n++) {
             due("tick", x.tick(), n);
@@ -847,7 +742,7 @@ public final class PromiseTests {
     }
 
     private static void tickCancels() {
-        section = "promise 12, cancels";
+        section("promise 12, cancels");
         RoamingRegisters x = sixCancellations();
         x.tick();
         dueDialogues(x, 0, 11, 12, 13, 14);
@@ -886,7 +781,7 @@ public final class PromiseTests {
     }
 
     private static void tickNumbers() {
-        section = "promise 12, numbers";
+        section("promise 12, numbers");
         RoamingRegisters x = registered(2, 1, 2);
         x.tick();
         x.ask(2);
@@ -915,7 +810,7 @@ public final class PromiseTests {
     }
 
     private static void holds() {
-        section = "promise 13";
+        section("promise 13");
         RoamingRegisters x = registered(2, 2, 3);
         for (int v = 1; v <= 2; v++) {
             for (int s = 0; s < 4; s++) {
@@ -935,7 +830,7 @@ public final class PromiseTests {
     }
 
     private static void location() {
-        section = "promise 14";
+        section("promise 14");
         RoamingRegisters x = registered(4, 4, 3);
         due("location(3)", x.location(3), 4);
         due("location(0)", x.location(0), 0);
@@ -950,7 +845,7 @@ public final class PromiseTests {
     }
 
     private static void registration() {
-        section = "promise 15";
+        section("promise 15");
         RoamingRegisters x = reachable(3);
         due("none", x.registration(3, 3), 0);
         x.appear(3, 3);
@@ -970,7 +865,7 @@ public final class PromiseTests {
     }
 
     private static void dialogues() {
-        section = "promise 16";
+        section("promise 16");
         RoamingRegisters x = reachable(3);
         x.appear(3, 0);
         x.appear(3, 1);
@@ -988,7 +883,7 @@ public final class PromiseTests {
     }
 
     private static void dialogue() {
-        section = "promise 17";
+        section("promise 17");
         RoamingRegisters x = registered(2, 1, 0);
         for (int n = 0; n < 4; n++) {
             x.ask(0);
@@ -1011,7 +906,7 @@ public final class PromiseTests {
     }
 
     private static void cancellation() {
-        section = "promise 18";
+        section("promise 18");
         RoamingRegisters x = registered(4, 4, 3);
         register(x, 1, 3);
         due("cancellation(0)", x.cancellation(0), 19);
@@ -1025,7 +920,7 @@ public final class PromiseTests {
     }
 
     private static void call() {
-        section = "promise 19";
+        section("promise 19");
         RoamingRegisters x = registered(2, 2, 3);
         x.ask(3);
         x.ask(3);
